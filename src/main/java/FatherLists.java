@@ -970,30 +970,46 @@ public final class FatherLists {
 
         boolean haveOrder() {
             int placed = 0;
-            for (int round = 0; round < NAMES; round++) {
-                placed |= canBeNext(placed);
+            for (int round = 0; round < NAMES && placed != all; round++) {
+                int more = withAllThatCanBeNext(placed);
+                if (more == placed) {
+                    return false;
+                }
+                placed = more;
             }
             return placed == all;
         }
 
-        int canBeNext(int placed) {
-            int next = 0;
+        int withAllThatCanBeNext(int placed) {
+            int more = placed;
             for (int name = 0; name < NAMES; name++) {
                 if (isIn(all, name) && (before[name] & ~placed) == 0) {
-                    next |= 1 << name;
+                    more |= 1 << name;
                 }
             }
-            return next;
+            return more;
         }
 
         int allAheadOf(int name) {
             int found = isName(name) ? before[name] : 0;
             for (int round = 0; round < NAMES; round++) {
-                for (int k = 0; k < NAMES; k++) {
-                    found |= isIn(found, k) ? before[k] : 0;
+                int more = withAllAhead(found);
+                if (more == found) {
+                    return found;
                 }
+                found = more;
             }
             return found;
+        }
+
+        int withAllAhead(int names) {
+            int more = names;
+            for (int name = 0; name < NAMES; name++) {
+                if (isIn(names, name)) {
+                    more |= before[name];
+                }
+            }
+            return more;
         }
 
         /** Looks at other sets on its way: look again behind it. */
@@ -1014,7 +1030,9 @@ public final class FatherLists {
         long countOrders() {
             int size = fillNeeded();
             int full = (1 << size) - 1;
-            Arrays.fill(ways, 0);
+            for (int placed = 0; placed <= full; placed++) {
+                ways[placed] = 0;
+            }
             ways[0] = 1;
             for (int placed = 0; placed < full; placed++) {
                 if (ways[placed] != 0) {

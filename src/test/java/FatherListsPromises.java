@@ -189,6 +189,8 @@ public final class FatherListsPromises {
         due("all", lawOf(x, "stand 1;take 2;weak 3;far 4;hold 5;"), 5);
         dueLaw(x, 5, 4, 3, 2, 1);
         due("the text is empty", x.count(1), 0);
+        due("one alone", lawOf(x, "take 7;"), 1);
+        dueLaw(x, 12, 1, 0, 7, 80);
         due("what is not told is as at first", lawOf(x, "far 0;"), 1);
         dueLaw(x, 12, 0, 0, 50, 80);
         due("blanks", lawOf(x, "  hold   2 ;  take 0; "), 2);
@@ -199,6 +201,7 @@ public final class FatherListsPromises {
         dueLaw(x, 12, 1, 0, 50, 80);
         lawOf(x, "hold 3;");
         due("blanks alone", lawOf(x, "   "), 0);
+        due("the text is empty", x.count(1), 0);
         dueLaw(x, 12, 1, 0, 50, 80);
         String long200 = "hold 7;" + " ".repeat(187) + "far 2;";
         due("200 bytes", lawOf(x, long200), 2);
@@ -233,6 +236,8 @@ public final class FatherListsPromises {
         dueFault("hold 5;;", 7);
         dueFault("holds 5;", 0);
         dueFault("hol 5;", 0);
+        dueFault("cold 5;", 0);
+        dueFault("holt 5;", 0);
         dueFault("  fa 1;", 2);
         dueFault("Hold 5;", 0);
         dueFault("holD 5;", 0);
@@ -639,6 +644,12 @@ public final class FatherListsPromises {
         due("latest", x.span(0, 4, 1), 80);
         due("itself", x.span(0, 2, 0), 10);
         due("none of this list", x.span(1, 0, 0), NO);
+        due("none of this list", x.span(1, 1, 1), NO);
+        x.date(0, 0);
+        due("the first dated", x.span(1, 1, 0), 20);
+        due("the first dated", x.span(1, 1, 1), 35);
+        due("by all dates of the list", x.span(0, 1, 0), NO);
+        x.date(0, NONE);
         x.date(4, 80);
         due("both bind", x.span(0, 3, 0), 45);
         due("both bind", x.span(0, 3, 1), 45);
