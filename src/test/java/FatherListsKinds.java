@@ -6,6 +6,9 @@ public final class FatherListsKinds {
         Checks.of("public static final int BAD = -1, STATE = -2, FULL = -3, NONE = -9;", FatherListsKinds::constants);
         Checks.of("An object is used for at most 512 calls after it has been made", FatherListsKinds::calls);
         Checks.of("`FatherLists()`: As told.", FatherListsKinds::newObject);
+        Checks.of("KINDS are over one another: 0 NAME; 1 CLAIMED, 2 JOINED, 4 DATED (each under NAME); "
+            + "3 STOOD (under JOINED); 5 FAR (under DATED).", FatherListsKinds::kinds);
+        Checks.of("\"up\" is what the KIND above does", FatherListsKinds::up);
         Checks.of("(numbers in brackets are added to THE TRACE, 0 at first, as often as worth() asks that body;",
             FatherListsKinds::trace);
         Checks.of("NAME in how many LISTS it is (1).", FatherListsKinds::name);
@@ -78,6 +81,42 @@ public final class FatherListsKinds {
     }
 
     // ---- kinds
+
+    private static void kinds() {
+        FatherLists x = Checks.lists("ab", "za", "a");
+        Checks.houseOf(x, 0, 'a', 30);
+        Checks.houseOf(x, 1, 'a', 40);
+        x.date(0, 1);
+        int[] worth = {3, 73, 7, 49, 10, 5};
+        for (int kind = 0; kind < 6; kind++) {
+            Checks.due("kind " + kind, x.worth(kind, 0), worth[kind]);
+        }
+    }
+
+    private static void up() {
+        FatherLists x = Checks.lists("a");
+        Checks.houseOf(x, 0, 'a', 30);
+        x.date(0, 1);
+        int[] before = {1, 31, 3, 9, 8, 4};
+        for (int kind = 0; kind < 6; kind++) {
+            Checks.due("kind " + kind + ", in one list", x.worth(kind, 0), before[kind]);
+        }
+        Checks.listOf(x, 3, "a");
+        int[] after = {2, 32, 4, 16, 9, 4};
+        for (int kind = 0; kind < 6; kind++) {
+            Checks.due("kind " + kind + ", in two", x.worth(kind, 0), after[kind]);
+        }
+        Checks.houseOf(x, 1, 'a', 5);
+        int[] joined = {2, 37, 6, 36, 9, 4};
+        for (int kind = 0; kind < 6; kind++) {
+            Checks.due("kind " + kind + ", by two houses", x.worth(kind, 0), joined[kind]);
+        }
+        x.date(0, Checks.NONE);
+        int[] undated = {2, 37, 6, 36, 2, 1};
+        for (int kind = 0; kind < 6; kind++) {
+            Checks.due("kind " + kind + ", without a date", x.worth(kind, 0), undated[kind]);
+        }
+    }
 
     private static void trace() {
         long[] added = {1, 11, 101, 1101, 10001, 110001};

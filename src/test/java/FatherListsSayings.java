@@ -6,6 +6,7 @@ public final class FatherListsSayings {
         Checks.of("HOUSES 0 .. 5 have a STRENGTH 0 .. 99 (0 at first)", FatherListsSayings::strengths);
         Checks.of("go by a CLAIM, a NAME (NONE at first)", FatherListsSayings::claims);
         Checks.of("HELD of a NAME: STRENGTHS of all HOUSES that go by it, added.", FatherListsSayings::held);
+        Checks.of("2 SAID: a LIST becomes another one", FatherListsSayings::stepByStep);
         Checks.of("FAR its first F places (never touched)", FatherListsSayings::farIsNeverTouched);
         Checks.of("1 TAKEN: HOUSES in order", FatherListsSayings::takenInOrder);
         Checks.of("if STRENGTH is T at least", FatherListsSayings::takenByStrength);
@@ -30,7 +31,9 @@ public final class FatherListsSayings {
         Checks.of("what would be TAKEN, MOVED, DROPPED", FatherListsSayings::foretoldChangesNothing);
         Checks.of("STRENGTH (what = 0), CLAIM (1; NONE too) of a HOUSE becomes v: what it was. BAD.",
             FatherListsSayings::house);
+        Checks.of("`int held(int name)`: HELD of a NAME. BAD.", FatherListsSayings::heldRefuses);
         Checks.of("A LIST is SAID with a new chief's NAME (NONE: without): how many NAMES.", FatherListsSayings::say);
+        Checks.of("how many NAMES. BAD; STATE: the NAME is in it.", FatherListsSayings::sayRefuses);
         Checks.of("STATE: the NAME is in it.", FatherListsSayings::nameIsInIt);
         Checks.of("Of the latest saying NAMES that were TAKEN (what = 0), MOVED (1), DROPPED (2), as bits. BAD.",
             FatherListsSayings::said);
@@ -93,6 +96,25 @@ public final class FatherListsSayings {
     }
 
     // ---- a saying
+
+    private static void stepByStep() {
+        FatherLists x = Checks.underLaw("hold 5;far 1;weak 20;take 50;stand 80;", "abcdef");
+        Checks.houseOf(x, 0, 'p', 60);
+        Checks.houseOf(x, 1, 'e', 90);
+        Checks.houseOf(x, 2, 'c', 10);
+        Checks.houseOf(x, 3, 'q', 85);
+        Checks.houseOf(x, 4, 'p', 80);
+        Checks.houseOf(x, 5, 'z', 1);
+        // Taken: aqpbcdef; moved: apqbcedf; c is weak; z comes; b, d, f are held by nobody.
+        Checks.due("as many as can be held", x.say(0, 25), 5);
+        Checks.dueList("one step behind the other", x, 0, "apqez");
+        Checks.dueSaid("one step behind the other", x, "pq", "ep", "bcdf");
+        FatherLists y = Checks.underLaw("hold 3;far 0;weak 60;take 50;", "abc");
+        Checks.houseOf(y, 0, 'p', 55);
+        y.say(0, Checks.NONE);
+        Checks.dueList("taken and dropped as weak, ahead of what is too much", y, 0, "abc");
+        Checks.dueSaid("taken and dropped as weak, ahead of what is too much", y, "p", "", "p");
+    }
 
     private static void farIsNeverTouched() {
         FatherLists x = Checks.underLaw("far 3;hold 2;weak 99;stand 0;take 0;", "abcdefg");
@@ -563,6 +585,31 @@ public final class FatherListsSayings {
         Checks.dueList("said without", x, 3, "gh");
         Checks.due("a may be", x.say(1, 0), 3);
         Checks.due("as many as can be held", Checks.listOf(x, 2, TWELVE) + x.say(2, 25), 24);
+    }
+
+    private static void heldRefuses() {
+        FatherLists x = new FatherLists();
+        Checks.houseOf(x, 5, 'a', 7);
+        Checks.due("the first", x.held(0), 7);
+        Checks.due("the last", x.held(25), 0);
+        Checks.due("NONE", x.held(Checks.NONE), Checks.BAD);
+        for (int name : Checks.NO_NAME) {
+            Checks.due("held of " + name, x.held(name), Checks.BAD);
+        }
+    }
+
+    private static void sayRefuses() {
+        FatherLists x = Checks.lists("abc");
+        Checks.houseOf(x, 0, 'p', 60);
+        for (int i : Checks.NO_LIST) {
+            Checks.due("list " + i, x.say(i, 25), Checks.BAD);
+            Checks.due("list " + i + " without a chief", x.say(i, Checks.NONE), Checks.BAD);
+        }
+        for (int name : Checks.NO_NAME) {
+            Checks.due("chief " + name, x.say(0, name), Checks.BAD);
+        }
+        Checks.dueList("nothing changes", x, 0, "abc");
+        Checks.dueSaid("nothing changes", x, "", "", "");
     }
 
     private static void nameIsInIt() {

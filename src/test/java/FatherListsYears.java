@@ -186,6 +186,19 @@ public final class FatherListsYears {
         dueSpan(x, 1, 0, Checks.NO, Checks.NO);
         x.link(1, 36);
         dueSpan(x, 1, 0, 100, 100);
+        // By the years of the first and the last place alone both dates could be.
+        FatherLists y = Checks.lists("abcde");
+        y.date(1, 100);
+        y.date(2, 136);
+        for (int k = 0; k < 5; k++) {
+            dueSpan(y, 0, k, Checks.NO, Checks.NO);
+        }
+        y.date(3, 119);
+        y.date(2, Checks.NONE);
+        y.date(4, 150);
+        for (int k = 0; k < 5; k++) {
+            dueSpan(y, 0, k, Checks.NO, Checks.NO);
+        }
     }
 
     // ---- lost
@@ -240,6 +253,15 @@ public final class FatherListsYears {
         Checks.due("no names", x.lost(2), 0);
         x.date(0, 50);
         Checks.due("one date", x.lost(0), 0);
+        x.date(0, Checks.NONE);
+        for (int year : new int[] {0, 50, 2000}) {
+            x.date(1, year);
+            Checks.due("one date, not the first place's", x.lost(0), 0);
+            x.date(1, Checks.NONE);
+            x.date(2, year);
+            Checks.due("one date, the last place's", x.lost(1), 0);
+            x.date(2, Checks.NONE);
+        }
         dueLost(x, 20, 0);
         dueLost(x, 27, 0);
         dueLost(x, 35, 0);
